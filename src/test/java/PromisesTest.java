@@ -448,6 +448,12 @@ public final class PromisesTest {
         int[][] throwsOf = {{1, 0, 36, 1}, {1, 1, 36, 5}, {0, 1, 36, 5}, {0, 0, 2, 5}, {0, 0, 3, 5}, {0, 0, 36, 3}};
         int[][] ends = {{1, 2, 5, NONE}, {2, 35, 0, 0}, {1, 35, 5, NONE}, {0, 2, 2, NONE}, {0, 3, 3, NONE},
             {2, 35, 3, 1}};
+        StoneRound y = new StoneRound();
+        y.person(0, 0, 1, 0);
+        due("the longest lies", y.flight(0, 0, 36, 5, 0), 0);
+        due("behind 36 minutes", y.flight(0, 0, 36, 5, 1), 36);
+        due("half round", y.flight(0, 0, 36, 5, 2), 4);
+        due("by nobody", y.flight(0, 0, 36, 5, 3), NONE);
         for (int i = 0; i < throwsOf.length; i++) {
             int[] t = throwsOf[i];
             for (int what = 0; what < 4; what++) {
@@ -646,6 +652,13 @@ public final class PromisesTest {
         due("by remainders", y.meet(0, 1), 461);
         y.list(1, 0, 0, 2, 1, 99, 20);
         due("never", y.meet(0, 1), NONE);
+        y.list(0, 0, 0, 2, 1, 0, 1);
+        y.list(1, 0, 0, 2, 1, 5, 1);
+        due("each minute", y.meet(0, 1), 6);
+        due("each minute", y.meet(1, 0), 6);
+        y.list(1, 0, 0, 2, 1, 7, 0);
+        due("each minute and once", y.meet(0, 1), 8);
+        due("once and each minute", y.meet(1, 0), 8);
         y.list(0, 0, 0, 5, 1, 0, 0);
         y.list(1, 1, 1, 2, 1, 2, 0);
         due("at the last minute it flies", y.meet(0, 1), 3);
@@ -699,6 +712,13 @@ public final class PromisesTest {
         y.person(0, 0, 1, 0);
         due("none listed", y.duck(0, 999, 0), 0);
         due("none listed", y.duck(0, 999, 1), NONE);
+        y.list(0, 0, 0, 4, 5, 0, 0);
+        due("one minute", y.duck(1, 1, 0), 1);
+        due("the first is the last", y.duck(1, 1, 1), 1);
+        y.list(0, 0, 0, 36, 1, 99, 0);
+        due("once, then one catches it oneself", y.duck(3, 134, 0), 1);
+        due("just behind the last", y.duck(3, 101, 1), NONE);
+        due("just the last", y.duck(3, 102, 1), 102);
         y.list(0, 0, 0, 4, 5, 0, 1);
         due("each minute", y.duck(1, 999, 0), 999);
         due("from the second on", y.duck(2, 999, 0), 998);
@@ -809,6 +829,20 @@ public final class PromisesTest {
         y.seen(0, 0, 1);
         due("1 high as it is thrown: none", y.who(1), 0);
         y.forget();
+        y.seen(3, 5, 2);
+        y.seen(1, 3, 1);
+        y.seen(5, 7, 1);
+        due("from 2 on, REACH 6, TOP 2", y.who(1), 1);
+        y.seen(4, 6, 2);
+        y.seen(2, 4, 2);
+        y.person(4, 2, 6, 9);
+        due("all on one way", y.who(1), 1);
+        y.forget();
+        y.seen(5, 7, 5);
+        y.person(4, 2, 10, 9);
+        due("one throw", y.who(1), 1);
+        due("of one", y.who(0), 16);
+        y.forget();
         y.hedge(1, 2);
         y.seen(1, 1, 1);
         due("in the hedge behind that minute", y.who(1), 2 * 5 + 9 * 5);
@@ -882,6 +916,13 @@ public final class PromisesTest {
         y.person(4, 0, 5, 1);
         y.hedge(3, 2);
         due("back, into the hedge", y.year(1, 1, 2), 1);
+        // seed 1, second minute: x is 11249: PERSON 4, 2249 is odd, 1124 by 5: REACH 5, 112 by 5: TOP 3
+        y.hedge(3, 0);
+        y.person(4, 0, 5, 2);
+        due("one throw a minute", y.year(1, 2, 0), 2);
+        due("no more than m", y.year(1, 1, 0), 1);
+        due("come round, each of them", y.year(1, 5, 1), 2);
+        due("the first alone", y.year(1, 4, 1), 1);
         StoneRound z = new StoneRound();
         z.person(0, 0, 36, 5);
         doDay(z, "A>105.......");
