@@ -522,6 +522,7 @@ public final class StoneRound {
         final int[] reach = new int[MOST_AIR];
         final int[] top = new int[MOST_AIR];
         final int[] age = new int[MOST_AIR];
+        final int[] high = new int[MOST_AIR];
 
         void takeFrom(Air other) {
             count = other.count;
@@ -530,6 +531,7 @@ public final class StoneRound {
             System.arraycopy(other.reach, 0, reach, 0, MOST_AIR);
             System.arraycopy(other.top, 0, top, 0, MOST_AIR);
             System.arraycopy(other.age, 0, age, 0, MOST_AIR);
+            System.arraycopy(other.high, 0, high, 0, MOST_AIR);
         }
 
         void add(int from, int wayOn, int far, int highest) {
@@ -541,6 +543,7 @@ public final class StoneRound {
             reach[count] = far;
             top[count] = highest;
             age[count] = 0;
+            high[count] = 0;
             count++;
         }
 
@@ -548,6 +551,7 @@ public final class StoneRound {
             for (int i = 0; i < count; i++) {
                 place[i] = nextPlace(place[i], way[i], places);
                 age[i]++;
+                high[i] = heightBehind(age[i], reach[i], top[i]);
             }
         }
 
@@ -557,10 +561,7 @@ public final class StoneRound {
             reach[to] = reach[from];
             top[to] = top[from];
             age[to] = age[from];
-        }
-
-        int height(int i) {
-            return heightBehind(age[i], reach[i], top[i]);
+            high[to] = high[from];
         }
 
         int countAt(int spot) {
@@ -572,18 +573,18 @@ public final class StoneRound {
         }
 
         int tellStone(int i) {
-            return 100 * place[i] + 10 * height(i) + way[i];
+            return 100 * place[i] + 10 * high[i] + way[i];
         }
 
         /** As bits: those that are down, and those that are at one place as high as another. */
         int fallingBits() {
             int bits = 0;
             for (int i = 0; i < count; i++) {
-                if (height(i) < 1) {
+                if (high[i] < 1) {
                     bits |= 1 << i;
                 }
                 for (int j = i + 1; j < count; j++) {
-                    if (place[i] == place[j] && height(i) == height(j)) {
+                    if (place[i] == place[j] && high[i] == high[j]) {
                         bits |= 1 << i | 1 << j;
                     }
                 }
@@ -655,7 +656,7 @@ public final class StoneRound {
 
         int leastAt(int place) {
             for (int person = 0; person < MOST_PEOPLE; person++) {
-                if (hasPerson(person) && at[person] == place) {
+                if ((there >> person & 1) != 0 && at[person] == place) {
                     return person;
                 }
             }
@@ -755,7 +756,7 @@ public final class StoneRound {
             int left = 0;
             for (int i = 0; i < air.count; i++) {
                 int place = air.place[i];
-                int high = air.height(i);
+                int high = air.high[i];
                 int catcher = isCatchable(high) ? leastAt(place) : NONE;
                 if (hedges[place] > high) {
                     lost[place]++;

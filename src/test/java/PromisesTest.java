@@ -1,6 +1,6 @@
 /**
- * Each promise by hand: ordinary inputs, the edges that the document names, wrong inputs, and that a
- * refused call changes nothing.
+ * Each promise by hand: ordinary inputs, edges and wrong inputs. What names a boundary case has a test of
+ * its own in EdgesTest, which also looks that a refused call changes nothing.
  */
 public final class PromisesTest {
     private static final int NONE = -6, UNKNOWN = -1, OUTSIDE = -2, STATE = -3, FULL = -4, NO = -5;
@@ -76,7 +76,7 @@ public final class PromisesTest {
         checks++;
         if (!now.equals(before)) {
             wrong++;
-            System.out.println("promise " + promise + ": " + call + " was refused but changed the state");
+            System.out.println("promise " + promise + ": " + call + ", but something else is not as it was");
         }
     }
 
@@ -100,11 +100,10 @@ public final class PromisesTest {
 
     private static void places() {
         StoneRound x = full();
-        String before = all(x);
-        same(x, before, "places(3)", x.places(3), OUTSIDE);
-        same(x, before, "places(10)", x.places(10), OUTSIDE);
-        same(x, before, "places(MIN)", x.places(MIN), OUTSIDE);
-        same(x, before, "places(MAX)", x.places(MAX), OUTSIDE);
+        due("places(3)", x.places(3), OUTSIDE);
+        due("places(10)", x.places(10), OUTSIDE);
+        due("places(MIN)", x.places(MIN), OUTSIDE);
+        due("places(MAX)", x.places(MAX), OUTSIDE);
         due("places(9)", x.places(9), 8);
         due("told(1)", x.told(1), 9);
         due("signs stay", x.told(0), 2);
@@ -133,12 +132,11 @@ public final class PromisesTest {
 
     private static void hedge() {
         StoneRound x = full();
-        String before = all(x);
-        same(x, before, "hedge(8, 1)", x.hedge(8, 1), UNKNOWN);
-        same(x, before, "hedge(-1, 9)", x.hedge(-1, 9), UNKNOWN);
-        same(x, before, "hedge(MAX, 0)", x.hedge(MAX, 0), UNKNOWN);
-        same(x, before, "hedge(0, 6)", x.hedge(0, 6), OUTSIDE);
-        same(x, before, "hedge(0, -1)", x.hedge(0, -1), OUTSIDE);
+        due("hedge(8, 1)", x.hedge(8, 1), UNKNOWN);
+        due("hedge(-1, 9)", x.hedge(-1, 9), UNKNOWN);
+        due("hedge(MAX, 0)", x.hedge(MAX, 0), UNKNOWN);
+        due("hedge(0, 6)", x.hedge(0, 6), OUTSIDE);
+        due("hedge(0, -1)", x.hedge(0, -1), OUTSIDE);
         due("hedge(5, 5)", x.hedge(5, 5), 2);
         due("hedge(5, 0)", x.hedge(5, 0), 5);
         due("hedge(7, 3)", x.hedge(7, 3), 0);
@@ -161,11 +159,10 @@ public final class PromisesTest {
 
     private static void lay() {
         StoneRound x = full();
-        String before = all(x);
-        same(x, before, "lay(8, 1)", x.lay(8, 1), UNKNOWN);
-        same(x, before, "lay(-1, 10)", x.lay(-1, 10), UNKNOWN);
-        same(x, before, "lay(0, 10)", x.lay(0, 10), OUTSIDE);
-        same(x, before, "lay(0, -1)", x.lay(0, -1), OUTSIDE);
+        due("lay(8, 1)", x.lay(8, 1), UNKNOWN);
+        due("lay(-1, 10)", x.lay(-1, 10), UNKNOWN);
+        due("lay(0, 10)", x.lay(0, 10), OUTSIDE);
+        due("lay(0, -1)", x.lay(0, -1), OUTSIDE);
         due("lay(2, 9)", x.lay(2, 9), 3);
         due("lay(2, 0)", x.lay(2, 0), 9);
         due("stones(2, 0)", x.stones(2, 0), 0);
@@ -179,15 +176,14 @@ public final class PromisesTest {
 
     private static void person() {
         StoneRound x = full();
-        String before = all(x);
-        same(x, before, "person(5, 0, 1, 0)", x.person(5, 0, 1, 0), UNKNOWN);
-        same(x, before, "person(-1, 0, 0, 0)", x.person(-1, 0, 0, 0), UNKNOWN);
-        same(x, before, "person(2, 8, 0, 0)", x.person(2, 8, 0, 0), UNKNOWN);
-        same(x, before, "person(2, -1, 1, 0)", x.person(2, -1, 1, 0), UNKNOWN);
-        same(x, before, "person(2, 0, 0, 0)", x.person(2, 0, 0, 0), OUTSIDE);
-        same(x, before, "person(2, 0, 37, 0)", x.person(2, 0, 37, 0), OUTSIDE);
-        same(x, before, "person(2, 0, 1, -1)", x.person(2, 0, 1, -1), OUTSIDE);
-        same(x, before, "person(0, 0, 1, 10)", x.person(0, 0, 1, 10), OUTSIDE);
+        due("person(5, 0, 1, 0)", x.person(5, 0, 1, 0), UNKNOWN);
+        due("person(-1, 0, 0, 0)", x.person(-1, 0, 0, 0), UNKNOWN);
+        due("person(2, 8, 0, 0)", x.person(2, 8, 0, 0), UNKNOWN);
+        due("person(2, -1, 1, 0)", x.person(2, -1, 1, 0), UNKNOWN);
+        due("person(2, 0, 0, 0)", x.person(2, 0, 0, 0), OUTSIDE);
+        due("person(2, 0, 37, 0)", x.person(2, 0, 37, 0), OUTSIDE);
+        due("person(2, 0, 1, -1)", x.person(2, 0, 1, -1), OUTSIDE);
+        due("person(0, 0, 1, 10)", x.person(0, 0, 1, 10), OUTSIDE);
         due("person(4, 7, 36, 9)", x.person(4, 7, 36, 9), 3);
         due("person(1, 6, 1, 0)", x.person(1, 6, 1, 0), 3);
         due("told(2)", x.told(2), 19);
@@ -207,11 +203,10 @@ public final class PromisesTest {
 
     private static void leave() {
         StoneRound x = full();
-        String before = all(x);
-        same(x, before, "leave(2)", x.leave(2), UNKNOWN);
-        same(x, before, "leave(5)", x.leave(5), UNKNOWN);
-        same(x, before, "leave(-1)", x.leave(-1), UNKNOWN);
-        same(x, before, "leave(32)", x.leave(32), UNKNOWN);
+        due("leave(2)", x.leave(2), UNKNOWN);
+        due("leave(5)", x.leave(5), UNKNOWN);
+        due("leave(-1)", x.leave(-1), UNKNOWN);
+        due("leave(32)", x.leave(32), UNKNOWN);
         due("leave(0)", x.leave(0), 1);
         due("leave(0)", x.leave(0), UNKNOWN);
         due("told(2)", x.told(2), 2);
@@ -225,18 +220,16 @@ public final class PromisesTest {
 
     private static void say() {
         StoneRound x = full();
-        String before = all(x);
-        same(x, before, "say(32)", x.say(32), OUTSIDE);
-        same(x, before, "say(127)", x.say(127), OUTSIDE);
-        same(x, before, "say(MIN)", x.say(MIN), OUTSIDE);
+        due("say(32)", x.say(32), OUTSIDE);
+        due("say(127)", x.say(127), OUTSIDE);
+        due("say(MIN)", x.say(MIN), OUTSIDE);
         due("say(33)", x.say(33), 3);
         due("say(126)", x.say(126), 4);
         for (int i = 5; i <= 60; i++) {
             due("say('.')", x.say('.'), i);
         }
-        before = all(x);
-        same(x, before, "say('.') at 60", x.say('.'), FULL);
-        same(x, before, "say(32) at 60", x.say(32), OUTSIDE);
+        due("say('.') at 60", x.say('.'), FULL);
+        due("say(32) at 60", x.say(32), OUTSIDE);
     }
 
     private static void wipe() {
@@ -268,10 +261,9 @@ public final class PromisesTest {
 
     private static void judge() {
         StoneRound x = full();
-        String before = all(x);
-        same(x, before, "judge(2)", x.judge(2), OUTSIDE);
-        same(x, before, "judge(-1)", x.judge(-1), OUTSIDE);
-        same(x, before, "judge(0)", x.judge(0), NO);
+        due("judge(2)", x.judge(2), OUTSIDE);
+        due("judge(-1)", x.judge(-1), OUTSIDE);
+        due("judge(0)", x.judge(0), NO);
         StoneRound y = new StoneRound();
         y.person(0, 0, 5, 1);
         y.person(1, 4, 36, 9);
@@ -300,11 +292,9 @@ public final class PromisesTest {
 
     private static void done() {
         StoneRound x = full();
-        String before = all(x);
-        same(x, before, "done() with a fault", x.done(), NO);
+        due("done() with a fault", x.done(), NO);
         say(x, "AoAoE>011");
-        before = all(x);
-        same(x, before, "done() that can not be", x.done(), NO);
+        due("done() that can not be", x.done(), NO);
         due("the pad is kept", x.wipe(), 9);
         due("done() of nothing", x.done(), 0);
 
@@ -381,21 +371,19 @@ public final class PromisesTest {
 
     private static void behind() {
         StoneRound x = full();
-        String before = all(x);
-        same(x, before, "behind(2, 0)", x.behind(2, 0), UNKNOWN);
-        same(x, before, "behind(2, 3)", x.behind(2, 3), UNKNOWN);
-        same(x, before, "behind(0, 3)", x.behind(0, 3), OUTSIDE);
-        same(x, before, "behind(0, -1)", x.behind(0, -1), OUTSIDE);
-        same(x, before, "behind(0, 0)", x.behind(0, 0), NO);
+        due("behind(2, 0)", x.behind(2, 0), UNKNOWN);
+        due("behind(2, 3)", x.behind(2, 3), UNKNOWN);
+        due("behind(0, 3)", x.behind(0, 3), OUTSIDE);
+        due("behind(0, -1)", x.behind(0, -1), OUTSIDE);
+        due("behind(0, 0)", x.behind(0, 0), NO);
         say(x, "BoAoA>011E+");
-        same(x, all(x), "behind(1, 0)", x.behind(1, 0), NO);
+        due("behind(1, 0)", x.behind(1, 0), NO);
         say(x, "..BoBoAk");
-        before = all(x);
-        same(x, before, "behind(1, 0)", x.behind(1, 0), 5);
-        same(x, before, "behind(0, 0)", x.behind(0, 0), 7);
-        same(x, before, "behind(1, 1)", x.behind(1, 1), 3);
-        same(x, before, "behind(1, 2)", x.behind(1, 2), 1);
-        same(x, before, "state(1, 2)", x.state(1, 2), 0);
+        due("behind(1, 0)", x.behind(1, 0), 5);
+        due("behind(0, 0)", x.behind(0, 0), 7);
+        due("behind(1, 1)", x.behind(1, 1), 3);
+        due("behind(1, 2)", x.behind(1, 2), 1);
+        due("state(1, 2)", x.state(1, 2), 0);
     }
 
     private static void stones() {
@@ -435,16 +423,15 @@ public final class PromisesTest {
 
     private static void flight() {
         StoneRound x = full();
-        String before = all(x);
-        same(x, before, "flight(2, 9, ..)", x.flight(2, 9, 1, 1, 0), UNKNOWN);
-        same(x, before, "flight(0, 2, ..)", x.flight(0, 2, 1, 1, 0), OUTSIDE);
-        same(x, before, "flight(0, -1, ..)", x.flight(0, -1, 1, 1, 0), OUTSIDE);
-        same(x, before, "reach 0", x.flight(0, 0, 0, 1, 0), OUTSIDE);
-        same(x, before, "reach 37", x.flight(0, 0, 37, 1, 0), OUTSIDE);
-        same(x, before, "top 0", x.flight(0, 0, 1, 0, 0), OUTSIDE);
-        same(x, before, "top 6", x.flight(0, 0, 1, 6, 0), OUTSIDE);
-        same(x, before, "what 4", x.flight(0, 0, 1, 1, 4), OUTSIDE);
-        same(x, before, "what -1", x.flight(0, 0, 1, 1, -1), OUTSIDE);
+        due("flight(2, 9, ..)", x.flight(2, 9, 1, 1, 0), UNKNOWN);
+        due("flight(0, 2, ..)", x.flight(0, 2, 1, 1, 0), OUTSIDE);
+        due("flight(0, -1, ..)", x.flight(0, -1, 1, 1, 0), OUTSIDE);
+        due("reach 0", x.flight(0, 0, 0, 1, 0), OUTSIDE);
+        due("reach 37", x.flight(0, 0, 37, 1, 0), OUTSIDE);
+        due("top 0", x.flight(0, 0, 1, 0, 0), OUTSIDE);
+        due("top 6", x.flight(0, 0, 1, 6, 0), OUTSIDE);
+        due("what 4", x.flight(0, 0, 1, 1, 4), OUTSIDE);
+        due("what -1", x.flight(0, 0, 1, 1, -1), OUTSIDE);
         int[][] throwsOf = {{1, 0, 36, 1}, {1, 1, 36, 5}, {0, 1, 36, 5}, {0, 0, 2, 5}, {0, 0, 3, 5}, {0, 0, 36, 3}};
         int[][] ends = {{1, 2, 5, NONE}, {2, 35, 0, 0}, {1, 35, 5, NONE}, {0, 2, 2, NONE}, {0, 3, 3, NONE},
             {2, 35, 3, 1}};
@@ -457,19 +444,18 @@ public final class PromisesTest {
         for (int i = 0; i < throwsOf.length; i++) {
             int[] t = throwsOf[i];
             for (int what = 0; what < 4; what++) {
-                same(x, before, "flight " + i + " " + what, x.flight(t[0], t[1], t[2], t[3], what), ends[i][what]);
+                due("flight " + i + " " + what, x.flight(t[0], t[1], t[2], t[3], what), ends[i][what]);
             }
         }
     }
 
     private static void gets() {
         StoneRound x = full();
-        String before = all(x);
-        same(x, before, "gets(2, 0, 0)", x.gets(2, 0, 0), UNKNOWN);
-        same(x, before, "gets(0, 2, 9)", x.gets(0, 2, 9), UNKNOWN);
-        same(x, before, "gets(0, 5, 0)", x.gets(0, 5, 0), UNKNOWN);
-        same(x, before, "gets(0, 1, 5)", x.gets(0, 1, 5), OUTSIDE);
-        same(x, before, "gets(0, 1, -1)", x.gets(0, 1, -1), OUTSIDE);
+        due("gets(2, 0, 0)", x.gets(2, 0, 0), UNKNOWN);
+        due("gets(0, 2, 9)", x.gets(0, 2, 9), UNKNOWN);
+        due("gets(0, 5, 0)", x.gets(0, 5, 0), UNKNOWN);
+        due("gets(0, 1, 5)", x.gets(0, 1, 5), OUTSIDE);
+        due("gets(0, 1, -1)", x.gets(0, 1, -1), OUTSIDE);
         StoneRound y = new StoneRound();
         y.person(0, 0, 4, 0);
         y.person(1, 3, 9, 0);
@@ -500,10 +486,9 @@ public final class PromisesTest {
 
     private static void round() {
         StoneRound x = full();
-        String before = all(x);
-        same(x, before, "round(2)", x.round(2), UNKNOWN);
-        same(x, before, "round(-1)", x.round(-1), UNKNOWN);
-        same(x, before, "round(5)", x.round(5), UNKNOWN);
+        due("round(2)", x.round(2), UNKNOWN);
+        due("round(-1)", x.round(-1), UNKNOWN);
+        due("round(5)", x.round(5), UNKNOWN);
         for (int n = 4; n <= 9; n++) {
             StoneRound y = new StoneRound();
             y.places(n);
@@ -528,11 +513,10 @@ public final class PromisesTest {
 
     private static void keptOff() {
         StoneRound x = full();
-        String before = all(x);
-        same(x, before, "keptOff(2, 0, 0)", x.keptOff(2, 0, 0), UNKNOWN);
-        same(x, before, "keptOff(0, 2, 5)", x.keptOff(0, 2, 5), UNKNOWN);
-        same(x, before, "keptOff(0, 1, 2)", x.keptOff(0, 1, 2), OUTSIDE);
-        same(x, before, "keptOff(0, 1, -1)", x.keptOff(0, 1, -1), OUTSIDE);
+        due("keptOff(2, 0, 0)", x.keptOff(2, 0, 0), UNKNOWN);
+        due("keptOff(0, 2, 5)", x.keptOff(0, 2, 5), UNKNOWN);
+        due("keptOff(0, 1, 2)", x.keptOff(0, 1, 2), OUTSIDE);
+        due("keptOff(0, 1, -1)", x.keptOff(0, 1, -1), OUTSIDE);
         StoneRound y = new StoneRound();
         y.person(0, 0, 3, 0);
         y.person(1, 3, 3, 0);
@@ -586,15 +570,14 @@ public final class PromisesTest {
 
     private static void list() {
         StoneRound x = full();
-        String before = all(x);
-        same(x, before, "list(6, ..)", x.list(6, 0, 0, 1, 1, 0, 0), UNKNOWN);
-        same(x, before, "list(-1, ..)", x.list(-1, 0, 9, 1, 1, 0, 0), UNKNOWN);
-        same(x, before, "list(1, 2, ..)", x.list(1, 2, 0, 1, 1, 0, 0), UNKNOWN);
+        due("list(6, ..)", x.list(6, 0, 0, 1, 1, 0, 0), UNKNOWN);
+        due("list(-1, ..)", x.list(-1, 0, 9, 1, 1, 0, 0), UNKNOWN);
+        due("list(1, 2, ..)", x.list(1, 2, 0, 1, 1, 0, 0), UNKNOWN);
         int[][] bad = {{-1, 1, 1, 0, 0}, {2, 1, 1, 0, 0}, {0, 0, 1, 0, 0}, {0, 37, 1, 0, 0}, {0, 1, 0, 0, 0},
             {0, 1, 6, 0, 0}, {0, 1, 1, -1, 0}, {0, 1, 1, 100, 0}, {0, 1, 1, 0, -1}, {0, 1, 1, 0, 21}};
         for (int[] b : bad) {
-            same(x, before, "list", x.list(1, 0, b[0], b[1], b[2], b[3], b[4]), OUTSIDE);
-            same(x, before, "list", x.list(0, 0, b[0], b[1], b[2], b[3], b[4]), OUTSIDE);
+            due("list", x.list(1, 0, b[0], b[1], b[2], b[3], b[4]), OUTSIDE);
+            due("list", x.list(0, 0, b[0], b[1], b[2], b[3], b[4]), OUTSIDE);
         }
         due("list(5, ..)", x.list(5, 1, 1, 36, 5, 99, 20), 3);
         due("list(5, ..) anew", x.list(5, 1, 0, 36, 5, 99, 20), 3);
@@ -615,11 +598,10 @@ public final class PromisesTest {
 
     private static void strike() {
         StoneRound x = full();
-        String before = all(x);
-        same(x, before, "strike(1)", x.strike(1), UNKNOWN);
-        same(x, before, "strike(6)", x.strike(6), UNKNOWN);
-        same(x, before, "strike(-1)", x.strike(-1), UNKNOWN);
-        same(x, before, "strike(32)", x.strike(32), UNKNOWN);
+        due("strike(1)", x.strike(1), UNKNOWN);
+        due("strike(6)", x.strike(6), UNKNOWN);
+        due("strike(-1)", x.strike(-1), UNKNOWN);
+        due("strike(32)", x.strike(32), UNKNOWN);
         due("strike(4)", x.strike(4), 1);
         due("told(4)", x.told(4), 1);
         due("strike(4)", x.strike(4), UNKNOWN);
@@ -628,12 +610,11 @@ public final class PromisesTest {
 
     private static void meet() {
         StoneRound x = full();
-        String before = all(x);
-        same(x, before, "meet(0, 1)", x.meet(0, 1), UNKNOWN);
-        same(x, before, "meet(1, 0)", x.meet(1, 0), UNKNOWN);
-        same(x, before, "meet(0, 0)", x.meet(0, 0), UNKNOWN);
-        same(x, before, "meet(0, 6)", x.meet(0, 6), UNKNOWN);
-        same(x, before, "meet(-1, 0)", x.meet(-1, 0), UNKNOWN);
+        due("meet(0, 1)", x.meet(0, 1), UNKNOWN);
+        due("meet(1, 0)", x.meet(1, 0), UNKNOWN);
+        due("meet(0, 0)", x.meet(0, 0), UNKNOWN);
+        due("meet(0, 6)", x.meet(0, 6), UNKNOWN);
+        due("meet(-1, 0)", x.meet(-1, 0), UNKNOWN);
         StoneRound y = new StoneRound();
         y.person(0, 0, 1, 0);
         y.person(1, 4, 1, 0);
@@ -671,9 +652,8 @@ public final class PromisesTest {
 
     private static void forbidden() {
         StoneRound x = full();
-        String before = all(x);
-        same(x, before, "forbidden(2)", x.forbidden(2), OUTSIDE);
-        same(x, before, "forbidden(-1)", x.forbidden(-1), OUTSIDE);
+        due("forbidden(2)", x.forbidden(2), OUTSIDE);
+        due("forbidden(-1)", x.forbidden(-1), OUTSIDE);
         StoneRound y = new StoneRound();
         y.person(0, 0, 1, 0);
         due("none listed", y.forbidden(0), 0);
@@ -701,13 +681,12 @@ public final class PromisesTest {
 
     private static void duck() {
         StoneRound x = full();
-        String before = all(x);
-        same(x, before, "duck(8, 1, 0)", x.duck(8, 1, 0), UNKNOWN);
-        same(x, before, "duck(-1, 0, 0)", x.duck(-1, 0, 0), UNKNOWN);
-        same(x, before, "duck(0, 0, 0)", x.duck(0, 0, 0), OUTSIDE);
-        same(x, before, "duck(0, 1000, 0)", x.duck(0, 1000, 0), OUTSIDE);
-        same(x, before, "duck(0, 1, 2)", x.duck(0, 1, 2), OUTSIDE);
-        same(x, before, "duck(0, 1, -1)", x.duck(0, 1, -1), OUTSIDE);
+        due("duck(8, 1, 0)", x.duck(8, 1, 0), UNKNOWN);
+        due("duck(-1, 0, 0)", x.duck(-1, 0, 0), UNKNOWN);
+        due("duck(0, 0, 0)", x.duck(0, 0, 0), OUTSIDE);
+        due("duck(0, 1000, 0)", x.duck(0, 1000, 0), OUTSIDE);
+        due("duck(0, 1, 2)", x.duck(0, 1, 2), OUTSIDE);
+        due("duck(0, 1, -1)", x.duck(0, 1, -1), OUTSIDE);
         StoneRound y = new StoneRound();
         y.person(0, 0, 1, 0);
         due("none listed", y.duck(0, 999, 0), 0);
@@ -747,9 +726,8 @@ public final class PromisesTest {
 
     private static void hands() {
         StoneRound x = full();
-        String before = all(x);
-        same(x, before, "hands(2)", x.hands(2), OUTSIDE);
-        same(x, before, "hands(-1)", x.hands(-1), OUTSIDE);
+        due("hands(2)", x.hands(2), OUTSIDE);
+        due("hands(-1)", x.hands(-1), OUTSIDE);
         StoneRound y = new StoneRound();
         y.person(0, 0, 1, 0);
         due("none listed", y.hands(0), 0);
@@ -779,20 +757,18 @@ public final class PromisesTest {
 
     private static void seen() {
         StoneRound x = full();
-        String before = all(x);
-        same(x, before, "seen(0, 8, 1)", x.seen(0, 8, 1), UNKNOWN);
-        same(x, before, "seen(37, -1, 1)", x.seen(37, -1, 1), UNKNOWN);
-        same(x, before, "seen(37, 0, 1)", x.seen(37, 0, 1), OUTSIDE);
-        same(x, before, "seen(-1, 0, 1)", x.seen(-1, 0, 1), OUTSIDE);
-        same(x, before, "seen(0, 0, 0)", x.seen(0, 0, 0), OUTSIDE);
-        same(x, before, "seen(0, 0, 6)", x.seen(0, 0, 6), OUTSIDE);
+        due("seen(0, 8, 1)", x.seen(0, 8, 1), UNKNOWN);
+        due("seen(37, -1, 1)", x.seen(37, -1, 1), UNKNOWN);
+        due("seen(37, 0, 1)", x.seen(37, 0, 1), OUTSIDE);
+        due("seen(-1, 0, 1)", x.seen(-1, 0, 1), OUTSIDE);
+        due("seen(0, 0, 0)", x.seen(0, 0, 0), OUTSIDE);
+        due("seen(0, 0, 6)", x.seen(0, 0, 6), OUTSIDE);
         for (int i = 2; i <= 6; i++) {
             due("seen(36, 7, 5)", x.seen(36, 7, 5), i);
         }
-        before = all(x);
-        same(x, before, "seen(0, 0, 1) at 6", x.seen(0, 0, 1), FULL);
-        same(x, before, "seen(0, 0, 0) at 6", x.seen(0, 0, 0), OUTSIDE);
-        same(x, before, "seen(0, 8, 1) at 6", x.seen(0, 8, 1), UNKNOWN);
+        due("seen(0, 0, 1) at 6", x.seen(0, 0, 1), FULL);
+        due("seen(0, 0, 0) at 6", x.seen(0, 0, 0), OUTSIDE);
+        due("seen(0, 8, 1) at 6", x.seen(0, 8, 1), UNKNOWN);
         due("told(5)", x.told(5), 6);
     }
 
@@ -806,9 +782,8 @@ public final class PromisesTest {
 
     private static void who() {
         StoneRound x = full();
-        String before = all(x);
-        same(x, before, "who(2)", x.who(2), OUTSIDE);
-        same(x, before, "who(-1)", x.who(-1), OUTSIDE);
+        due("who(2)", x.who(2), OUTSIDE);
+        due("who(-1)", x.who(-1), OUTSIDE);
         StoneRound y = new StoneRound();
         due("nobody", y.who(0), 0);
         due("nobody", y.who(1), 0);
@@ -852,13 +827,12 @@ public final class PromisesTest {
 
     private static void slips() {
         StoneRound x = full();
-        String before = all(x);
-        same(x, before, "slips(2, ..)", x.slips(2, 0, 0, 1, 1, 0, 0), LOST + UNKNOWN);
-        same(x, before, "slips(0, 2, ..)", x.slips(0, 2, 5, 1, 1, 0, 0), LOST + UNKNOWN);
+        due("slips(2, ..)", x.slips(2, 0, 0, 1, 1, 0, 0), LOST + UNKNOWN);
+        due("slips(0, 2, ..)", x.slips(0, 2, 5, 1, 1, 0, 0), LOST + UNKNOWN);
         int[][] bad = {{-1, 1, 1, 0, 0}, {2, 1, 1, 0, 0}, {0, 0, 1, 0, 0}, {0, 37, 1, 0, 0}, {0, 1, 0, 0, 0},
             {0, 1, 6, 0, 0}, {0, 1, 1, -1, 0}, {0, 1, 1, 6, 0}, {0, 1, 1, 0, -1}, {0, 1, 1, 0, 2}};
         for (int[] b : bad) {
-            same(x, before, "slips", x.slips(0, 1, b[0], b[1], b[2], b[3], b[4]), LOST + OUTSIDE);
+            due("slips", x.slips(0, 1, b[0], b[1], b[2], b[3], b[4]), LOST + OUTSIDE);
         }
         StoneRound y = new StoneRound();
         y.person(0, 0, 1, 0);
@@ -882,14 +856,13 @@ public final class PromisesTest {
 
     private static void year() {
         StoneRound x = full();
-        String before = all(x);
-        same(x, before, "year(-1, 1, 0)", x.year(-1, 1, 0), OUTSIDE);
-        same(x, before, "year(10000, 1, 0)", x.year(10000, 1, 0), OUTSIDE);
-        same(x, before, "year(0, 0, 0)", x.year(0, 0, 0), OUTSIDE);
-        same(x, before, "year(0, 100, 0)", x.year(0, 100, 0), OUTSIDE);
-        same(x, before, "year(0, 1, 3)", x.year(0, 1, 3), OUTSIDE);
-        same(x, before, "year(0, 1, -1)", x.year(0, 1, -1), OUTSIDE);
-        same(x, before, "year(9999, 99, 0)", x.year(9999, 99, 0) >= 0 ? 1 : 0, 1);
+        due("year(-1, 1, 0)", x.year(-1, 1, 0), OUTSIDE);
+        due("year(10000, 1, 0)", x.year(10000, 1, 0), OUTSIDE);
+        due("year(0, 0, 0)", x.year(0, 0, 0), OUTSIDE);
+        due("year(0, 100, 0)", x.year(0, 100, 0), OUTSIDE);
+        due("year(0, 1, 3)", x.year(0, 1, 3), OUTSIDE);
+        due("year(0, 1, -1)", x.year(0, 1, -1), OUTSIDE);
+        due("year(9999, 99, 0)", x.year(9999, 99, 0) >= 0 ? 1 : 0, 1);
         StoneRound y = new StoneRound();
         // seed 0: x is 74: PERSON 4, 14 is even: on, 7 left over by ARM 5 and 1: REACH 3, TOP 1
         y.person(4, 0, 5, 1);
@@ -931,10 +904,9 @@ public final class PromisesTest {
 
     private static void image() {
         StoneRound x = full();
-        String before = all(x);
-        same(x, before, "image(2)", x.image(2), OUTSIDE);
-        same(x, before, "image(-1)", x.image(-1), OUTSIDE);
-        same(x, before, "image(0)", x.image(0), 1);
+        due("image(2)", x.image(2), OUTSIDE);
+        due("image(-1)", x.image(-1), OUTSIDE);
+        due("image(0)", x.image(0), 1);
         due("restore(1)", x.restore(1), STATE);
         x.image(1);
         x.hedge(0, 4);
@@ -948,10 +920,10 @@ public final class PromisesTest {
     private static void restore() {
         StoneRound x = full();
         String before = all(x);
-        same(x, before, "restore(2)", x.restore(2), OUTSIDE);
-        same(x, before, "restore(-1)", x.restore(-1), OUTSIDE);
-        same(x, before, "restore(0)", x.restore(0), STATE);
-        same(x, before, "restore(1)", x.restore(1), STATE);
+        due("restore(2)", x.restore(2), OUTSIDE);
+        due("restore(-1)", x.restore(-1), OUTSIDE);
+        due("restore(0)", x.restore(0), STATE);
+        due("restore(1)", x.restore(1), STATE);
         x.image(1);
         x.places(5);
         x.person(0, 4, 1, 1);
