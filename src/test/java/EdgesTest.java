@@ -514,6 +514,18 @@ public final class EdgesTest {
         edge("what lies takes nothing along", "person(0, 0, 9, 9); do A>011A>095.; air(-1) = 1; air(0) = 110; stones(1, 0) = 1");
         edge("some fall, others go on, in their order", "person(0, 0, 36, 9); person(1, 2, 36, 9)",
             "do A<095A>095B<095B>094.; air(-1) = 2; air(0) = 711; air(1) = 310; stones(1, 0) = 2");
+        edge("one lies, the next goes on as it was thrown", "person(0, 0, 36, 9); do A>021.A<085.; stones(2, 0) = 1",
+            "air(-1) = 1; air(0) = 711; do .; air(0) = 621; do .; air(0) = 531; do .; air(0) = 441; do .; air(0) = 331");
+        edge("one goes on, the next lies", "person(0, 0, 36, 9); do A<095A>011.; air(-1) = 1; air(0) = 711",
+            "stones(1, 0) = 1; do A>011A>011.; air(-1) = 1; stones(1, 0) = 3");
+        edge("one is lost, the next goes on", "person(0, 0, 36, 9); hedge(1, 5); do A>095A<095.; air(-1) = 1; air(0) = 711",
+            "stones(1, 1) = 1");
+        edge("one is caught, the next goes on", "person(0, 0, 36, 9); person(1, 1, 1, 0); do A>095A<095.; air(-1) = 1",
+            "air(0) = 711; state(1, 2) = 1");
+        edge("at the last PLACE of nine", "places(9); person(0, 7, 9, 9); person(4, 8, 9, 0); lay(8, 1); do E+; state(4, 1) = 1",
+            "stones(8, 0) = 0; do A>031.; state(4, 2) = 1; do Ek.; state(4, 0) = 7; state(4, 2) = 1; do A>011.",
+            "stones(8, 0) = 1; hedge(8, 1); do A>011.; stones(8, 1) = 1; do A>011.; stones(8, 1) = 2; behind(4, 2) = 1",
+            "behind(4, 0) = 7");
         edge("hands are ahead of falling", "person(0, 0, 9, 2); person(1, 1, 9, 0); do A>095A>094.; state(1, 2) = 2",
             "stones(1, 0) = 0");
         edge("they fall 5 high, too, not at the PLACE where one was 4, one 2 high", "person(0, 0, 36, 1)",
@@ -624,6 +636,8 @@ public final class EdgesTest {
         fly("nothing else being in the air", "person(0, 0, 9, 9); do A>095", "0, 0, 9, 5", 2, 8, 0, 0);
         fly("though twelve are in the air", TWELVE, "1, 0, 3, 5", 0, 3, 7, NONE);
         fly("the PAD does not matter", two + "; day Bo", "0, 0, 4, 5", 2, 3, 3, 1);
+        edge("one is told behind another", two, "flight(0, 0, 4, 5, 0) = 2; flight(0, 0, 3, 5, 0) = 0; flight(0, 0, 3, 5, 3) = NONE",
+            "hedge(1, 5); flight(0, 0, 4, 5, 0) = 1; hedge(1, 0); flight(0, 0, 2, 5, 0) = 0; flight(0, 0, 2, 5, 1) = 2");
     }
 
     private static void fly(String sentence, String world, String told, int ends, int minutes, int place, int by) {
@@ -656,6 +670,8 @@ public final class EdgesTest {
         getAll("soonest is not softest", "person(0, 0, 6, 0); person(1, 3, 1, 0); hedge(2, 2)", "0, 1", 14, 42, 3, 1061, 5);
         getAll("what is in hand, in the air, does not matter", "person(0, 0, 4, 1); person(1, 3, 1, 0); do A>041", "0, 1",
             5, 41, 3, 41, 3);
+        edge("one is told behind another", "person(0, 0, 4, 0); person(1, 3, 4, 0); gets(0, 1, 0) = 5; gets(0, 1, 0) = 5",
+            "gets(1, 0, 1) = 1041; gets(0, 1, 1) = 41; person(1, 4, 1, 0); gets(0, 1, 0) = 0; gets(0, 1, 1) = NONE");
     }
 
     private static void getAll(String sentence, String world, String who, int... due) {
@@ -716,6 +732,10 @@ public final class EdgesTest {
         edge("one's own, where it is thrown and caught", "places(4); person(2, 1, 9, 1); keptOff(2, 2, 0) = 3",
             "keptOff(2, 2, 1) = 1");
         edge("the last PLACE", "places(9); person(0, 7, 2, 0); person(1, 8, 1, 0); keptOff(0, 1, 0) = 2; keptOff(0, 1, 1) = 8");
+        edge("PLACE 0", "person(0, 7, 2, 0); person(1, 0, 1, 0); keptOff(0, 1, 0) = 2; keptOff(0, 1, 1) = 0");
+        edge("one is told behind another", two, "person(0, 0, 36, 0); keptOff(0, 1, 0) = 3; person(0, 0, 4, 0)",
+            "keptOff(0, 1, 0) = 2; keptOff(0, 1, 1) = 1; places(9); person(0, 7, 2, 0); person(1, 8, 1, 0)",
+            "keptOff(0, 1, 1) = 8; places(8); person(0, 7, 2, 0); person(1, 0, 1, 0); keptOff(0, 1, 1) = 0");
     }
 
     private static void laid() {
@@ -831,6 +851,8 @@ public final class EdgesTest {
         meets("remainders that never meet, by 20", "0, 0, 2, 1, 0, 20", "0, 0, 2, 1, 99, 20", "NONE");
         meets("remainders that never meet, by 2", "0, 0, 2, 1, 0, 6", "0, 0, 2, 1, 1, 4", "NONE");
         meets("remainders that meet, by 2", "0, 0, 2, 1, 0, 6", "0, 0, 2, 1, 2, 4", "7");
+        meets("at one PLACE never, at another one ever", "0, 0, 4, 1, 0, 4", "1, 1, 4, 1, 0, 4", "2");
+        meets("at one PLACE never, at another one sooner", "0, 0, 4, 1, 0, 4", "1, 1, 4, 1, 2, 4", "3");
         meets("the first of several minutes", "0, 0, 9, 5, 0, 3", "1, 1, 9, 5, 0, 5", "2");
         meets("not 0 high behind the last", "0, 0, 2, 5, 0, 0", "1, 1, 2, 5, 0, 0", "NONE");
         meets("behind the last minute but one", "0, 0, 3, 5, 0, 0", "1, 1, 3, 5, 0, 0", "2");
@@ -863,6 +885,13 @@ public final class EdgesTest {
         edge("three pairs", six.toString(), "list(0, 0, 0, 9, 5, 10, 0); list(5, 0, 0, 9, 5, 10, 0); list(1, 0, 0, 9, 5, 40, 0)",
             "list(4, 0, 0, 9, 5, 40, 0); forbidden(0) = 3; forbidden(1) = 7");
         still("it is but told", "0", "forbidden(0)", "forbidden(1)");
+        String at3 = "person(0, 0, 1, 0); person(1, 4, 1, 0); list(0, 0, 0, 5, 1, 0, 0); list(1, 1, 1, 2, 1, 2, 0)";
+        edge("PEOPLE, HEDGES as they are now", at3, "forbidden(0) = 1; person(2, 3, 1, 0); forbidden(0) = 0; leave(2)",
+            "forbidden(1) = 1; hedge(3, 2); forbidden(0) = 0; forbidden(1) = 0");
+        edge("one is told behind another", six.toString(), "hands(1) = 1; forbidden(1) = 31; list(3, 0, 1, 9, 5, 70, 0)",
+            "forbidden(1) = 23; hands(1) = 1; strike(0); strike(1); strike(2); forbidden(1) = 16; strike(4); forbidden(1) = 0");
+        edge("hands() told ahead", "person(0, 0, 1, 0); list(0, 0, 0, 9, 5, 0, 0); list(1, 0, 1, 9, 5, 1, 0); hands(1) = 1",
+            "forbidden(0) = 0; forbidden(1) = 0");
     }
 
     private static void duck() {
@@ -875,11 +904,13 @@ public final class EdgesTest {
         edge("none listed", "duck(0, 999, 0) = 0; duck(0, 999, 1) = NONE; duck(7, 1, 0) = 0; duck(7, 1, 1) = NONE");
         String once = "person(0, 0, 1, 0); list(0, 0, 0, 4, 5, 0, 0)";
         edge("m 1, the least", once, "duck(1, 1, 0) = 1; duck(1, 1, 1) = 1; duck(2, 1, 0) = 0; duck(2, 1, 1) = NONE");
+        edge("0: but once, in all of 999", once, "duck(1, 999, 0) = 1; duck(2, 999, 0) = 1; duck(3, 999, 0) = 1");
         edge("just the last minute", once, "duck(3, 2, 0) = 0; duck(3, 2, 1) = NONE; duck(3, 3, 0) = 1; duck(3, 3, 1) = 3");
         edge("not 0 high as it is thrown", once, "duck(0, 999, 0) = 0; duck(0, 999, 1) = NONE");
         edge("not 0 high as it lies", once, "duck(4, 999, 0) = 0; duck(4, 999, 1) = NONE");
         String each = "person(0, 0, 1, 0); list(5, 0, 0, 4, 5, 0, 1)";
         edge("m 999, the most", each, "duck(1, 999, 0) = 999; duck(1, 999, 1) = 1; duck(3, 999, 0) = 997; duck(3, 999, 1) = 3");
+        edge("one is told behind another", each, "duck(1, 999, 0) = 999; strike(5); duck(1, 999, 0) = 0; duck(1, 999, 1) = NONE");
         edge("1 or 2 high, not 3", "person(0, 0, 1, 0); list(0, 0, 0, 6, 5, 0, 0); duck(1, 99, 0) = 1; duck(2, 99, 0) = 1",
             "duck(3, 99, 0) = 0; duck(4, 99, 0) = 1; duck(5, 99, 0) = 1; duck(6, 99, 0) = 0");
         edge("0: but once, at the last AT", "person(0, 0, 1, 0); list(0, 0, 0, 4, 5, 99, 0); duck(1, 99, 0) = 0",
@@ -910,8 +941,8 @@ public final class EdgesTest {
         edge("ahead of a HEDGE", one, "hedge(2, 3); hands(0) = 1; hands(1) = 2");
         edge("PEOPLE do not catch", one, "person(1, 1, 1, 0); hands(0) = 1; hands(1) = 2; list(1, 1, 0, 2, 1, 0, 0)",
             "hands(0) = 1; hands(1) = 4");
-        edge("not where it is 3 high, or 0", "person(0, 0, 1, 0); list(0, 0, 0, 6, 5, 0, 0); list(1, 0, 1, 5, 1, 0, 0)",
-            "hands(0) = 1; hands(1) = 16");
+        edge("not where it is 3 high, or 0", "person(0, 0, 1, 0); list(0, 0, 0, 6, 5, 0, 0); list(1, 0, 1, 6, 1, 0, 0)",
+            "hands(0) = 1; hands(1) = 16; list(0, 0, 0, 4, 5, 0, 0); hands(1) = 8; list(0, 0, 0, 3, 5, 0, 0); hands(0) = 2");
         edge("the last PLACE of nine", "places(9); person(0, 0, 1, 0); list(0, 0, 1, 2, 1, 0, 0); hands(0) = 1; hands(1) = 256");
         edge("PLACE 0, from behind", "person(0, 0, 1, 0); person(1, 7, 1, 0); list(0, 1, 0, 2, 1, 0, 0); hands(1) = 1");
         edge("three hands", "person(0, 0, 1, 0); person(1, 4, 1, 0)",
@@ -1030,7 +1061,7 @@ public final class EdgesTest {
         chance("0 is as 1", "person(0, 0, 1, 0); person(1, 1, 1, 0)", "0, 1, 0, 1, 1, 4", 2, 5);
         chance("37 is as 36, which is caught", "places(9); person(0, 0, 1, 0); person(1, 7, 1, 0)", "0, 1, 0, 36, 5, 3", 1, 1);
         chance("37 is as 36, which is not", "places(9); person(0, 0, 1, 0)", "0, 0, 0, 36, 5, 3", 0, 1);
-        chance("35 becomes 36", "places(9); person(0, 0, 1, 0); person(1, 7, 1, 0)", "0, 1, 0, 35, 5, 3", 7, 10);
+        chance("35 becomes 36", "places(5); person(0, 0, 1, 0)", "0, 0, 0, 35, 5, 3", 3, 10);
         chance("one's own", "person(0, 0, 1, 0)", "0, 0, 0, 9, 5, 1", 9, 10);
         chance("back, round the ring", "person(0, 1, 1, 0); person(1, 6, 1, 0)", "0, 1, 1, 4, 5, 1", 9, 10);
     }
@@ -1073,6 +1104,20 @@ public final class EdgesTest {
         edge("one throw a minute, m of them", "person(4, 0, 5, 9); year(1, 1, 0) = 1; year(1, 2, 0) = 2; year(1, 3, 0) = 2",
             "person(0, 0, 1, 1); year(1, 2, 0) = 2; year(1, 3, 0) = 3");
         edge("the last in hand is thrown", "person(4, 0, 5, 1); year(1, 1, 0) = 1; year(1, 2, 0) = 1");
+        // seed 34: x is 2624, TOP 26 by 5; seed 3: x is 299, TOP 2 by 5; seed 6: x is 524, TOP 5 by 5
+        edge("TOP 2: 26 by 5 leaves 1", "person(4, 0, 36, 1); hedge(2, 2); year(34, 2, 0) = 1; year(34, 2, 2) = 0");
+        edge("TOP 3: 299 is cut to 2", "person(4, 0, 36, 1); hedge(4, 4); year(3, 4, 2) = 1; hedge(4, 3); year(3, 4, 2) = 0");
+        edge("TOP 1: 5 by 5 leaves 0", "person(4, 0, 36, 1); hedge(2, 2); year(6, 2, 2) = 1");
+        // seeds 1747, 3495, 873, 2621: x is 25, 51, 12, 38
+        edge("PERSON 0, back: 5 is odd", "person(0, 0, 36, 1); hedge(7, 2); year(1747, 1, 0) = 1; year(1747, 1, 2) = 1");
+        edge("PERSON 1, on: 10 is even", "person(1, 0, 36, 1); hedge(1, 2); year(3495, 1, 0) = 1; year(3495, 1, 2) = 1");
+        edge("PERSON 2, on: 2 is even", "person(2, 0, 36, 1); hedge(1, 2); year(873, 1, 0) = 1; year(873, 1, 2) = 1");
+        edge("PERSON 3, back: 7 is odd", "person(3, 0, 36, 1); hedge(7, 2); year(2621, 1, 0) = 1; year(2621, 1, 2) = 1");
+        edge("lost at the last PLACE of nine", "places(9); person(4, 7, 8, 9); hedge(8, 5); do E>085.; hedge(8, 0); year(0, 1, 2) = 1",
+            "hedge(8, 5); year(0, 1, 2) = 2; stones(8, 1) = 1");
+        edge("lost at all PLACES", "person(0, 0, 36, 9); hedge(1, 5); hedge(7, 5); do A>095A>095A<095.; year(0, 1, 2) = 3");
+        edge("one is told behind another", "person(4, 0, 8, 1); hedge(1, 2); year(0, 1, 2) = 1; year(0, 1, 2) = 1; hedge(1, 1)",
+            "year(0, 1, 2) = 0; person(0, 1, 1, 0); year(0, 1, 1) = 1; year(0, 1, 1) = 1");
         still("nothing is DONE in fact", "0", "year(0, 1, 0)", "year(0, 1, 2)");
         for (int what = 0; what < 3; what++) {
             Asked asked = new Asked();
@@ -1116,13 +1161,29 @@ public final class EdgesTest {
         edge("STONES in the air, none", "person(0, 0, 9, 2); image(0); do A>095.; restore(0) = 1; air(-1) = 0; state(0, 1) = 2");
         edge("STONES in the air, twelve", TWELVE, "image(0); do .; air(-1) = 0; restore(0) = 1; air(-1) = 12; air(11) = 400",
             "day C>011; judge(1) = 4");
-        edge("STONES in the air go on as they did", "person(0, 0, 36, 2); do A<073..; image(0); do A>365......; restore(0) = 1",
-            "air(0) = 621; do .; air(0) = 531; do .; air(0) = 431; do ...; air(-1) = 0; stones(1, 0) = 1");
+        edge("STONES in the air, the twelfth as it was", "person(1, 4, 36, 9); person(2, 4, 36, 3); do " + "B>095".repeat(9)
+            + "C>095C>095C<082", "image(0); do .; air(-1) = 1; person(1, 5, 36, 9); person(2, 5, 36, 2); do "
+            + "B>365".repeat(9) + "C>365C>365", "restore(0) = 1; air(-1) = 12; air(11) = 401; do .; air(-1) = 1; air(0) = 311",
+            "do .; air(0) = 221; do .; air(0) = 121; do .....; air(-1) = 0; stones(4, 0) = 1");
+        edge("STONES in the air, the twelfth goes on", "person(1, 4, 36, 9); person(2, 4, 36, 3); do " + "B>095".repeat(9)
+            + "C>095C>095C<082", "year(0, 2, 0) = 0; do .; air(-1) = 1; air(0) = 311; do .; air(0) = 221");
+        edge("STONES in the air, twelve as high as they were", "places(9); person(0, 0, 36, 9); person(1, 0, 36, 9)",
+            "do " + "A>365B<365.".repeat(5), "air(-1) = 10; do A>365B<365.; air(-1) = 12; air(10) = 110; air(11) = 811; image(0)",
+            "do .; air(10) = 220; air(11) = 721; restore(0) = 1; air(10) = 110; air(11) = 811; do .; air(11) = 721");
+        edge("STONES in the air go on as they did", "person(0, 0, 36, 2); do A<092..; image(0); do A>365.......; air(-1) = 1",
+            "restore(0) = 1; air(0) = 621; do .; air(0) = 521; do .; air(0) = 421; do ...; air(0) = 121; do .; air(-1) = 0",
+            "state(0, 2) = 1; state(0, 1) = 2");
         edge("THROWS as they were", "person(0, 0, 9, 2); person(1, 4, 9, 2); list(0, 0, 0, 4, 5, 7, 9); image(0)",
             "list(0, 1, 1, 2, 1, 0, 0); list(5, 1, 1, 2, 1, 0, 0); restore(0) = 1; told(4) = 1; duck(1, 99, 1) = 8",
             "duck(1, 99, 0) = 11; duck(2, 99, 0) = 11; duck(3, 99, 1) = 10; duck(3, 99, 0) = 10");
         edge("SIGHTS as they were", "person(0, 0, 4, 0); seen(3, 3, 1); image(0); forget(); seen(1, 7, 1); seen(2, 2, 5)",
             "restore(0) = 1; told(5) = 1; who(1) = 5");
+        edge("SIGHTS as they were, six", "person(0, 0, 36, 0); seen(1, 1, 1); seen(2, 2, 2); seen(3, 3, 3); seen(4, 4, 4)",
+            "seen(5, 5, 5); seen(6, 6, 4); image(0); forget(); seen(9, 1, 1); seen(9, 1, 1); seen(9, 1, 1); seen(9, 1, 1)",
+            "seen(9, 1, 1); seen(9, 1, 1) = 6; restore(0) = 1; told(5) = 6; who(1) = 1");
+        edge("THROWS as they were, the last", "person(0, 0, 9, 2); person(1, 4, 9, 2); list(5, 1, 1, 8, 2, 7, 9); image(1)",
+            "list(5, 0, 0, 2, 5, 0, 1); restore(1) = 1; told(4) = 32; duck(3, 99, 1) = 8; duck(3, 99, 0) = 11; duck(0, 99, 1) = 11",
+            "leave(0); duck(5, 99, 1) = 14; duck(4, 99, 1) = NONE");
         edge("behind a DAY", WORLD, "done() = 2; restore(0) = 1; told(3) = 2; air(0) = 110; air(1) = 711; told(14) = 0",
             "state(3, 2) = 0; told(0) = 0");
     }
