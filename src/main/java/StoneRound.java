@@ -964,8 +964,8 @@ public final class StoneRound {
 
         void search(World world, Scene scene, Flight flight, int person, int other) {
             many = 0;
-            soonest = Integer.MAX_VALUE;
-            softest = Integer.MAX_VALUE;
+            soonest = FAR;
+            softest = FAR;
             for (int place = 0; place < MOST_PLACES; place++) {
                 need[place] = 0;
             }
